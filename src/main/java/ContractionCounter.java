@@ -39,7 +39,6 @@ public final class ContractionCounter {
     private final PairingTable subTable;
     private final DiagramTable diagramTable;
     private final Graph graph;
-    private final Worths worths;
     private final Printer printer;
     private Theory theory;
     private Theory spare;
@@ -54,7 +53,6 @@ public final class ContractionCounter {
         subTable = new PairingTable();
         diagramTable = new DiagramTable();
         graph = new Graph();
-        worths = new Worths();
         printer = new Printer();
         theory = new Theory();
         spare = new Theory();
@@ -158,7 +156,7 @@ public final class ContractionCounter {
             case 11:
                 return answer(knownDiagrams().linkedDiagrams());
             case 12:
-                return answer(knownDiagrams().connectedDiagrams());
+                return answer(knownDiagrams().countWith(0, 1));
             default:
                 return refuse(WRONG_NUMBER);
         }
@@ -277,11 +275,11 @@ public final class ContractionCounter {
         if (!theory.hasCode(code)) {
             return refuse(NO_SUCH);
         }
-        int old = worths.of(code);
+        int old = theory.worths[code];
         if (old == worth) {
             return refuse(ALREADY);
         }
-        worths.set(code, worth);
+        theory.worths[code] = worth;
         return answer(old);
     }
 
@@ -369,11 +367,15 @@ public final class ContractionCounter {
         if (what == 0) {
             return answer(knownWays().of(theory.lettersOf(set)));
         }
-        PairingTable table = pairingsOf(set);
         if (what == 1) {
-            return answer(table.signs());
+            return answer(pairingsOf(set).signs());
         }
-        return answer(countHanging(table, set, what == 2));
+        boolean onOuter = what == 2;
+        if (set == theory.allPoints()) {
+            DiagramTable table = knownDiagrams();
+            return answer(onOuter ? table.linkedPairings() : table.connectedPairings());
+        }
+        return answer(countHanging(pairingsOf(set), set, onOuter));
     }
 
     public long sum() {
@@ -415,7 +417,7 @@ public final class ContractionCounter {
         if (!hasDiagram(d) || !theory.hasPoint(p)) {
             return refuse(NO_SUCH);
         }
-        return answer(graphOf(d).reach(p, theory.allPoints()));
+        return answer(graphOf(d).reach(1 << p, theory.allPoints()));
     }
 
     public int far(int d, int p, int q) {
@@ -514,7 +516,7 @@ public final class ContractionCounter {
             return refuse(NO_SUCH);
         }
         Graph shape = graphOf(d);
-        int left = shape.heldBy(theory.outerPoints());
+        int left = shape.reach(theory.outerPoints(), theory.allPoints());
         if (what == 0) {
             return answer(Integer.bitCount(left));
         }
@@ -538,7 +540,6 @@ public final class ContractionCounter {
     }
 
     private void forgetAll() {
-        worths.reset();
         wayTable.ready = false;
         pairingTable.ready = false;
         pairingTable.roundsReady = false;
@@ -605,7 +606,7 @@ public final class ContractionCounter {
         int count = 0;
         for (int k = 0; k < table.size; k++) {
             drawPairing(table, k, set);
-            if (onOuter ? graph.heldBy(outer) == set : graph.partCount() == 1) {
+            if (onOuter ? graph.reach(outer, set) == set : graph.partCount() == 1) {
                 count++;
             }
         }
@@ -629,7 +630,7 @@ public final class ContractionCounter {
         for (int i = 0; i < theory.letterCount; i++) {
             int other = table.mateOf(k, i);
             if (i < other) {
-                product *= worths.of(theory.codeOf(i, other));
+                product *= theory.worths[theory.codeOf(i, other)];
             }
         }
         return product;
@@ -709,6 +710,7 @@ public final class ContractionCounter {
         private final int[] home = new int[MAX_LETTERS];
         private final int[] partners = new int[MAX_LETTERS];
         private final int[] codes = new int[MAX_LETTERS * MAX_LETTERS];
+        private final int[] worths = new int[CODES];
         private int fieldCount;
         private int mixCount;
         private int pointCount;
@@ -719,6 +721,7 @@ public final class ContractionCounter {
             for (int p = 0; p < MAX_POINTS; p++) {
                 points[p] = new Point();
             }
+            Arrays.fill(worths, 1);
         }
 
         void clear() {
@@ -728,7 +731,9 @@ public final class ContractionCounter {
             renumber();
         }
 
+        /** To be called behind each change of points: what is known of letters, and worths, go with it. */
         void renumber() {
+            Arrays.fill(worths, 1);
             letterCount = 0;
             oddLetters = 0;
             for (int p = 0; p < pointCount; p++) {
@@ -1076,7 +1081,7 @@ public final class ContractionCounter {
                 end++;
             }
             token = WORD;
-            value = letterAt(0);
+            value = tape[start] - 'a' + 1;
         }
 
         private void takeNumber() {
@@ -1159,23 +1164,19 @@ public final class ContractionCounter {
     private static final class TheoryReader {
         boolean readTheory(Tokens tokens, Theory theory) {
             theory.clear();
-            for (int line = 0; line < MAX_BYTES && tokens.token != Tokens.END; line++) {
-                if (!readTextLine(tokens, theory)) {
-                    return false;
+            boolean well = true;
+            for (int line = 0; line < MAX_BYTES && well && tokens.token != Tokens.END; line++) {
+                if (tokens.isWord("field")) {
+                    well = readField(tokens, theory);
+                } else if (tokens.isWord("mix")) {
+                    well = readMix(tokens, theory);
+                } else {
+                    well = readPoint(tokens, theory);
                 }
+                well = well && tokens.passSign(';');
             }
             theory.renumber();
-            return true;
-        }
-
-        private boolean readTextLine(Tokens tokens, Theory theory) {
-            if (tokens.isWord("field")) {
-                return readField(tokens, theory) && tokens.passSign(';');
-            }
-            if (tokens.isWord("mix")) {
-                return readMix(tokens, theory) && tokens.passSign(';');
-            }
-            return readPoint(tokens, theory) && tokens.passSign(';');
+            return well;
         }
 
         private boolean readField(Tokens tokens, Theory theory) {
@@ -1454,6 +1455,7 @@ public final class ContractionCounter {
         private static final int TURNED = 16;
         private static final int CROSSINGS = 15;
         private static final int ROUNDS_SHIFT = 5;
+        private static final int TOP = 4 * (MAX_LETTERS - 1);
 
         private long[] mates = new long[FIRST_ROOM];
         private int[] facts = new int[FIRST_ROOM];
@@ -1540,15 +1542,11 @@ public final class ContractionCounter {
 
         /** Letter 0 stands highest, so that rows as numbers have the order of the pairings. */
         static long packed(int i, int j) {
-            return (long) j << shiftOf(i) | (long) i << shiftOf(j);
-        }
-
-        private static int shiftOf(int i) {
-            return 4 * (MAX_LETTERS - 1 - i);
+            return (long) j << TOP - 4 * i | (long) i << TOP - 4 * j;
         }
 
         int mateOf(int k, int i) {
-            return (int) (mates[k] >>> shiftOf(i)) & 15;
+            return (int) (mates[k] >>> TOP - 4 * i) & 15;
         }
 
         int crossings(int k) {
@@ -1747,7 +1745,15 @@ public final class ContractionCounter {
             keys.clear(pairings.size);
             size = 0;
             for (int k = 0; k < pairings.size; k++) {
-                enter(theory, pairings, k);
+                long key = rowOf(theory, pairings, k);
+                int place = keys.find(key);
+                if (place < 0) {
+                    place = size;
+                    open(theory, key, k);
+                }
+                placeOf[k] = place;
+                counts[place]++;
+                signs[place] += pairings.sign(k);
             }
             sortByName();
             ready = true;
@@ -1783,7 +1789,8 @@ public final class ContractionCounter {
             }
         }
 
-        private void enter(Theory theory, PairingTable pairings, int k) {
+        /** Leaves the codes of a pairing in the row, and answers their key. */
+        private long rowOf(Theory theory, PairingTable pairings, int k) {
             int lines = 0;
             for (int i = 0; i < theory.letterCount && lines < MAX_LINES; i++) {
                 int other = pairings.mateOf(k, i);
@@ -1792,15 +1799,7 @@ public final class ContractionCounter {
                     lines++;
                 }
             }
-            long key = keyOf(row, lines);
-            int place = keys.find(key);
-            if (place < 0) {
-                place = size;
-                open(theory, key, k);
-            }
-            placeOf[k] = place;
-            counts[place]++;
-            signs[place] += pairings.sign(k);
+            return keyOf(row, lines);
         }
 
         /** All rows of the new diagram become known at once, so each is made only once. */
@@ -1870,7 +1869,7 @@ public final class ContractionCounter {
             int moved = order[root];
             int hole = root;
             int child = 2 * hole + 1;
-            while (child < end) {
+            for (int step = 0; step < 32 && child < end; step++) {
                 if (child + 1 < end && names[order[child]] < names[order[child + 1]]) {
                     child++;
                 }
@@ -1948,7 +1947,7 @@ public final class ContractionCounter {
                 int loops = lineCount + parts - Integer.bitCount(allPoints);
                 int shape = KNOWN | parts << PARTS_SHIFT | loops << LOOPS_SHIFT;
                 shape |= graph.bridges() << BRIDGES_SHIFT | graph.rings() << RINGS_SHIFT;
-                if (graph.heldBy(outerPoints) == allPoints) {
+                if (graph.reach(outerPoints, allPoints) == allPoints) {
                     shape |= LINKED;
                 }
                 traits[place] |= shape;
@@ -1988,10 +1987,6 @@ public final class ContractionCounter {
                 total += isLinked(place) ? 1 : 0;
             }
             return total;
-        }
-
-        int connectedDiagrams() {
-            return countWith(0, 1);
         }
 
         /** What counts as in diagrams(): parts, loops, bridges, rings, symmetry. */
@@ -2048,42 +2043,32 @@ public final class ContractionCounter {
             }
         }
 
-        private int widen(int set, int within) {
-            int wider = set;
+        private int nextTo(int set) {
+            int found = 0;
             for (int p = 0; p < MAX_POINTS; p++) {
                 if ((set >> p & 1) != 0) {
-                    wider |= near[p];
+                    found |= near[p];
                 }
             }
-            return wider & within;
+            return found;
         }
 
-        /** All that hangs together with a point, over points of a set alone. */
-        int reach(int p, int within) {
-            return spread(1 << p, within);
-        }
-
-        private int spread(int seed, int within) {
-            int seen = seed & within;
-            for (int step = 0; step < MAX_POINTS; step++) {
-                int wider = widen(seen, within);
-                if (wider == seen) {
-                    return seen;
-                }
-                seen = wider;
+        /** All that hangs together with points of a set, over points of another set alone. */
+        int reach(int seeds, int within) {
+            int seen = seeds & within;
+            int fresh = seen;
+            for (int step = 0; step < MAX_POINTS && fresh != 0; step++) {
+                fresh = nextTo(fresh) & within & ~seen;
+                seen |= fresh;
             }
             return seen;
-        }
-
-        int heldBy(int outer) {
-            return spread(outer, present);
         }
 
         int partCount() {
             int left = present;
             int parts = 0;
             for (int step = 0; step < MAX_POINTS && left != 0; step++) {
-                left &= ~reach(Integer.numberOfTrailingZeros(left), present);
+                left &= ~reach(Integer.lowestOneBit(left), present);
                 parts++;
             }
             return parts;
@@ -2095,7 +2080,7 @@ public final class ContractionCounter {
                 if ((seen >> q & 1) != 0) {
                     return steps;
                 }
-                seen = widen(seen, present);
+                seen |= nextTo(seen) & present;
             }
             return NONE;
         }
@@ -2122,7 +2107,7 @@ public final class ContractionCounter {
             }
             near[from[k]] &= ~(1 << to[k]);
             near[to[k]] &= ~(1 << from[k]);
-            boolean apart = (reach(from[k], present) >> to[k] & 1) == 0;
+            boolean apart = (reach(1 << from[k], present) >> to[k] & 1) == 0;
             near[from[k]] |= 1 << to[k];
             near[to[k]] |= 1 << from[k];
             return apart;
@@ -2150,11 +2135,11 @@ public final class ContractionCounter {
         }
 
         private boolean isCut(int p) {
-            int others = reach(p, present) & ~(1 << p);
+            int others = reach(1 << p, present) & ~(1 << p);
             if (others == 0) {
                 return false;
             }
-            int held = reach(Integer.numberOfTrailingZeros(others), present & ~(1 << p));
+            int held = reach(Integer.lowestOneBit(others), present & ~(1 << p));
             return held != others;
         }
 
@@ -2164,29 +2149,6 @@ public final class ContractionCounter {
                 count += set >> from[k] & set >> to[k] & 1;
             }
             return count;
-        }
-    }
-
-    /** The worths of codes. */
-    private static final class Worths {
-        private final int[] table = new int[CODES];
-
-        Worths() {
-            Arrays.fill(table, 1);
-        }
-
-        void reset() {
-            Arrays.fill(table, 1);
-        }
-
-        int of(int code) {
-            return code >= 0 && code < CODES ? table[code] : 1;
-        }
-
-        void set(int code, int worth) {
-            if (code >= 0 && code < CODES) {
-                table[code] = worth;
-            }
         }
     }
 
