@@ -152,7 +152,7 @@ public final class ContractionCounter {
             case 9:
                 return answer(knownDiagrams().connectedPairings());
             case 10:
-                return answer(knownPairings().withCrossings(0));
+                return answer(knownPairings().tally(false, 0, false));
             case 11:
                 return answer(knownDiagrams().linkedDiagrams());
             case 12:
@@ -341,16 +341,14 @@ public final class ContractionCounter {
         if (what < 0 || what > 1 || number < 0) {
             return refuse(WRONG_NUMBER);
         }
-        PairingTable table = knownRounds();
-        return answer(what == 0 ? table.withCrossings(number) : table.withHoles(number));
+        return answer(knownRounds().tally(what == 1, number, false));
     }
 
     public int signedBy(int what, int number) {
         if (what < 0 || what > 1 || number < 0) {
             return refuse(WRONG_NUMBER);
         }
-        PairingTable table = knownRounds();
-        return answer(what == 0 ? table.signsWithCrossings(number) : table.signsWithHoles(number));
+        return answer(knownRounds().tally(what == 1, number, true));
     }
 
     public int partial(int k) {
@@ -636,6 +634,11 @@ public final class ContractionCounter {
         return product;
     }
 
+    /** The number of the lowest bit of a set that has one. */
+    private static int leastOf(int set) {
+        return Integer.bitCount((set & -set) - 1);
+    }
+
     private static int roomFor(int rows) {
         int room = FIRST_ROOM;
         for (int step = 0; step < 8 && room < rows; step++) {
@@ -760,26 +763,19 @@ public final class ContractionCounter {
             }
             int own = kind[i] / 2;
             int other = kind[j] / 2;
-            if (own != other) {
-                linkMixed(i, j, mixOf(own, other));
-            } else if (!isPair[own]) {
-                setCode(i, j, Math.min(home[i], home[j]), Math.max(home[i], home[j]), own);
-            } else if (kind[i] != kind[j]) {
-                boolean away = kind[i] < kind[j];
-                setCode(i, j, away ? home[i] : home[j], away ? home[j] : home[i], own);
-            }
-        }
-
-        private void linkMixed(int i, int j, int mix) {
+            int mix = mixOf(own, other);
             if (mix >= 0) {
-                boolean away = mixFirst[mix] == kind[i] / 2;
-                setCode(i, j, away ? home[i] : home[j], away ? home[j] : home[i], MAX_FIELDS + mix);
+                setCode(i, j, mixFirst[mix] == own, MAX_FIELDS + mix);
+            } else if (own == other && (!isPair[own] || kind[i] != kind[j])) {
+                setCode(i, j, kind[i] < kind[j], own);
             }
         }
 
-        private void setCode(int i, int j, int from, int to, int sort) {
+        private void setCode(int i, int j, boolean away, int sort) {
             partners[i] |= 1 << j;
-            codes[i * MAX_LETTERS + j] = 100 * from + 10 * to + sort;
+            codes[i * MAX_LETTERS + j] = away
+                    ? codeFor(home[i], home[j], sort)
+                    : codeFor(home[j], home[i], sort);
         }
 
         boolean hasLetter(int i) {
@@ -947,6 +943,12 @@ public final class ContractionCounter {
 
         boolean isRealSort(int sort) {
             return sort < MAX_FIELDS && !isPair[sort];
+        }
+
+        /** The code of a line; a real one goes from the lesser point. */
+        int codeFor(int from, int to, int sort) {
+            boolean turned = from > to && sort < MAX_FIELDS && !isPair[sort];
+            return turned ? 100 * to + 10 * from + sort : 100 * from + 10 * to + sort;
         }
 
         boolean isPairSort(int sort) {
@@ -1383,8 +1385,7 @@ public final class ContractionCounter {
                 return tokens.failHere(4);
             }
             tokens.advance();
-            boolean turned = theory.isRealSort(sort) && from > to;
-            codes[count] = turned ? 100 * to + 10 * from + sort : 100 * from + 10 * to + sort;
+            codes[count] = theory.codeFor(from, to, sort);
             count++;
             return tokens.passSign(';');
         }
@@ -1422,12 +1423,12 @@ public final class ContractionCounter {
             letters = theory.allLetters();
             table[0] = 1;
             for (int set = 1; set <= letters; set++) {
-                int least = Integer.numberOfTrailingZeros(set);
+                int least = leastOf(set);
                 int others = set & (set - 1);
                 int choice = theory.partners[least] & others;
                 int count = 0;
                 for (int step = 0; step < MAX_LETTERS && choice != 0; step++) {
-                    count += table[others & ~Integer.lowestOneBit(choice)];
+                    count += table[others & ~(choice & -choice)];
                     choice &= choice - 1;
                 }
                 table[set] = count;
@@ -1487,7 +1488,7 @@ public final class ContractionCounter {
             if (depth >= MAX_LINES) {
                 return;
             }
-            int i = Integer.numberOfTrailingZeros(free);
+            int i = leastOf(free);
             int choice = theory.partners[i] & free & (free - 1);
             for (int j = i + 1; j < letterCount; j++) {
                 int left = free & ~(1 << i | 1 << j);
@@ -1529,7 +1530,7 @@ public final class ContractionCounter {
             int left = (1 << letterCount) - 1;
             int rings = 0;
             for (int ring = 0; ring < MAX_LETTERS && left != 0; ring++) {
-                int at = Integer.numberOfTrailingZeros(left);
+                int at = leastOf(left);
                 for (int step = 0; step < MAX_LETTERS && (left >> at & 1) != 0; step++) {
                     left &= ~(1 << at);
                     int next = mateOf(k, at) + 1;
@@ -1600,34 +1601,13 @@ public final class ContractionCounter {
             return total;
         }
 
-        int withCrossings(int number) {
+        /** How many pairings have so many crossings, or holes, or else their signs together. */
+        int tally(boolean holes, int number, boolean signed) {
             int total = 0;
             for (int k = 0; k < size; k++) {
-                total += crossings(k) == number ? 1 : 0;
-            }
-            return total;
-        }
-
-        int withHoles(int number) {
-            int total = 0;
-            for (int k = 0; k < size; k++) {
-                total += holesOf(k) == number ? 1 : 0;
-            }
-            return total;
-        }
-
-        int signsWithCrossings(int number) {
-            int total = 0;
-            for (int k = 0; k < size; k++) {
-                total += crossings(k) == number ? sign(k) : 0;
-            }
-            return total;
-        }
-
-        int signsWithHoles(int number) {
-            int total = 0;
-            for (int k = 0; k < size; k++) {
-                total += holesOf(k) == number ? sign(k) : 0;
+                if ((holes ? holesOf(k) : crossings(k)) == number) {
+                    total += signed ? sign(k) : 1;
+                }
             }
             return total;
         }
@@ -1644,7 +1624,7 @@ public final class ContractionCounter {
             int left = (1 << letterCount) - 1;
             int rings = 0;
             for (int ring = 0; ring < MAX_LETTERS && left != 0; ring++) {
-                int at = Integer.numberOfTrailingZeros(left);
+                int at = leastOf(left);
                 for (int step = 0; step < MAX_LETTERS && (left >> at & 1) != 0; step++) {
                     int across = mateOf(k, at);
                     left &= ~(1 << at | 1 << across);
@@ -1674,7 +1654,7 @@ public final class ContractionCounter {
                 keys = new long[room];
                 marks = new int[room];
             }
-            Arrays.fill(marks, 0, slots, 0);
+            Arrays.fill(marks, 0);
         }
 
         /** The slot of the key, or the free one where it belongs. */
@@ -1824,9 +1804,7 @@ public final class ContractionCounter {
             for (int i = 0; i < lineCount; i++) {
                 int from = change >> 3 * (row[i] / 100) & 7;
                 int to = change >> 3 * (row[i] / 10 % 10) & 7;
-                int sort = row[i] % 10;
-                boolean turned = from > to && theory.isRealSort(sort);
-                image[i] = turned ? 100 * to + 10 * from + sort : 100 * from + 10 * to + sort;
+                image[i] = theory.codeFor(from, to, row[i] % 10);
             }
             return keyOf(image, lineCount);
         }
@@ -1910,9 +1888,9 @@ public final class ContractionCounter {
                 case 2:
                     return symmetry(place);
                 case 3:
-                    return partsOf(place);
+                    return shapeOf(place) >> PARTS_SHIFT & 15;
                 case 4:
-                    return isLinked(place) ? 1 : 0;
+                    return (shapeOf(place) & LINKED) == 0 ? 0 : 1;
                 case 5:
                     return shapeOf(place) >> LOOPS_SHIFT & 7;
                 case 6:
@@ -2068,7 +2046,7 @@ public final class ContractionCounter {
             int left = present;
             int parts = 0;
             for (int step = 0; step < MAX_POINTS && left != 0; step++) {
-                left &= ~reach(Integer.lowestOneBit(left), present);
+                left &= ~reach(left & -left, present);
                 parts++;
             }
             return parts;
@@ -2096,21 +2074,16 @@ public final class ContractionCounter {
         int bridges() {
             int count = 0;
             for (int k = 0; k < lineCount; k++) {
-                count += isBridge(k) ? 1 : 0;
+                if (from[k] != to[k] && !hasTwin(k)) {
+                    near[from[k]] &= ~(1 << to[k]);
+                    near[to[k]] &= ~(1 << from[k]);
+                    boolean apart = (reach(1 << from[k], present) >> to[k] & 1) == 0;
+                    near[from[k]] |= 1 << to[k];
+                    near[to[k]] |= 1 << from[k];
+                    count += apart ? 1 : 0;
+                }
             }
             return count;
-        }
-
-        private boolean isBridge(int k) {
-            if (from[k] == to[k] || hasTwin(k)) {
-                return false;
-            }
-            near[from[k]] &= ~(1 << to[k]);
-            near[to[k]] &= ~(1 << from[k]);
-            boolean apart = (reach(1 << from[k], present) >> to[k] & 1) == 0;
-            near[from[k]] |= 1 << to[k];
-            near[to[k]] |= 1 << from[k];
-            return apart;
         }
 
         private boolean hasTwin(int k) {
@@ -2139,7 +2112,7 @@ public final class ContractionCounter {
             if (others == 0) {
                 return false;
             }
-            int held = reach(Integer.lowestOneBit(others), present & ~(1 << p));
+            int held = reach(others & -others, present & ~(1 << p));
             return held != others;
         }
 
