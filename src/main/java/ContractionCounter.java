@@ -724,7 +724,6 @@ public final class ContractionCounter {
             for (int p = 0; p < MAX_POINTS; p++) {
                 points[p] = new Point();
             }
-            Arrays.fill(worths, 1);
         }
 
         void clear() {

@@ -178,6 +178,10 @@ public final class PromiseTest {
     }
     fine("1 no lines", x, () -> x.printPairs(0), 0);
     fine("1 sum", x, x::sum, 1);
+    int[] facts = {1, 1, 1, 0, 1, 0, 0, 0, 0, 0, 1};
+    for (int what = 0; what < facts.length; what++) {
+      due("1 diagram " + what, x.diagram(0, what), facts[what]);
+    }
     due("1 tape", x.feed(0, 0, 0, 0, 0), 20);
     due("NONE", ContractionCounter.NONE, -1);
   }
@@ -269,6 +273,10 @@ public final class PromiseTest {
     due("4 six fields, four mixes", load(x, "field a real;field b real;field c real;field d real;"
         + "field e real;field f real;mix a b;mix a c;mix f a;mix b c;outer a;"), 1);
     due("4 mixes", x.many(1), 4);
+    load(x, MIXED);
+    load(x, THREE);
+    due("4 no mixes of old", load(x, "field a real;field b real;outer a;outer b;"), 2);
+    due("4 no mixes of old", x.many(1) + x.many(5), 0);
     due("4 twelve letters", load(x, "field a real;vertex a a a a a a;vertex a a a a a a;"), 12);
     due("4 eight points, five vertices", load(x, "field a real;outer a;outer a;outer a;vertex a;"
         + "vertex a;vertex a;vertex a;vertex a;"), 8);
@@ -295,6 +303,8 @@ public final class PromiseTest {
     badLoad("field p real  ", 2, 14);
     badLoad("field", 2, 5);
     badLoad("fields p real;", 2, 0);
+    badLoad("gield p real;", 2, 0);
+    badLoad("fielt p real;", 2, 0);
     badLoad(";", 2, 0);
     badLoad("' field", 2, 0);
     badLoad("real p;", 2, 0);
@@ -356,6 +366,11 @@ public final class PromiseTest {
     refused("5 n below 0", x, () -> x.pairs(-1), 1);
     refused("5 n above", x, () -> x.pairs(21), 1);
     due("5 the tape is as it was", x.feed(0, 0, 0, 0, 0), 40);
+    x.pairs(0);
+    for (int k = 0; k < 15; k++) {
+      x.printPairs(k);
+      due("5 each is known again", pairs(x, printed(x)), k);
+    }
     x.load(0);
     due("5 no letters", pairs(x, ""), 0);
     badPairs(PHI, "0-1;2-6;", 3, 6);
@@ -410,6 +425,12 @@ public final class PromiseTest {
     due("6 a mix", lines(y, "2-0ba;1-1ba;"), 2);
     due("6 a mix is not to be turned", lines(y, "0-2ba;1-1ba;"), -1);
     due("6 status", y.status(), 5);
+    ContractionCounter v = with("field a real odd;field b real odd;field c real odd;mix c a;mix b c;"
+        + "outer b c;outer a;vertex c;");
+    due("6 the second mix", lines(v, "0-2bc; 0-1ca;"), 1);
+    due("6 not by the other mix's word", lines(v, "0-2ca; 0-1ca;"), -1);
+    v.print(1);
+    due("6 as it is printed", printed(v), "0-1ca;0-2bc;");
     ContractionCounter z = with("field p real;outer p p p p;");
     due("6 a short row is not one that begins with code 0", lines(z, "0-0p;"), -1);
     due("6 status", z.status(), 5);
@@ -560,6 +581,8 @@ public final class PromiseTest {
     due("11 rows in their order", x.point(0, 4), 2);
     due("11 rows in their order", x.point(1, 4), 1);
     due("11 a longer row", x.point(3, 4), 1);
+    load(x, "field a real;field b real;vertex a b;vertex b b;vertex a a;");
+    due("11 another first letter", x.point(0, 4) + x.point(1, 4) + x.point(2, 4), 3);
     refused("11 what", x, () -> x.point(0, 5), 1);
     refused("11 what", x, () -> x.point(0, -1), 1);
     refused("11 what comes first", x, () -> x.point(9, 5), 1);
@@ -616,6 +639,13 @@ public final class PromiseTest {
     fine("13 all", x, () -> x.drop(0), 0);
     due("13 no pairs are left", x.many(5), 1);
     refused("13 none is left", x, () -> x.drop(0), 2);
+    ContractionCounter z = with("field a real;field b real;outer a;outer b;outer a;vertex b;vertex a;vertex b;vertex a;"
+        + "vertex b;");
+    fine("13 of eight", z, () -> z.drop(0), 7);
+    due("13 rows", rows(z), "0b 1a 2b 3a 4b 5a 6b ");
+    z.copy(0);
+    fine("13 the eighth", z, () -> z.drop(7), 7);
+    due("13 rows", rows(z), "0b 1a 2b 3a 4b 5a 6b ");
     ContractionCounter y = with(QED);
     due("13 pairings and diagrams", counts(y), "6 4 0 2>3 ");
     y.drop(1);
@@ -665,6 +695,12 @@ public final class PromiseTest {
     refused("14 no such", x, () -> x.move(-1, 0), 2);
     refused("14 so already", x, () -> x.move(2, 2), 4);
     due("14 nor the worths", x.worth(0, 3), 4);
+    ContractionCounter z = with("field a real;field b real;outer a;outer b;outer a;vertex b;vertex a;vertex b;vertex a;"
+        + "vertex b;");
+    fine("14 of eight, to the last place", z, () -> z.move(0, 7), 7);
+    due("14 rows", rows(z), "0b 1a 2b 3a 4b 5a 6b 7a ");
+    fine("14 of eight, from the last place", z, () -> z.move(7, 0), 0);
+    due("14 rows", rows(z), "0a 1b 2a 3b 4a 5b 6a 7b ");
     ContractionCounter y = with("field e pair odd;field p real;outer e;outer p e e';outer e';outer p;");
     due("14 pairings and diagrams", counts(y), "2 2 0 1-3 ");
     y.move(0, 3);
@@ -832,6 +868,10 @@ public final class PromiseTest {
     ContractionCounter z = with("field m real odd;field p real;outer m p m p;");
     due("20 an odd and an even one", z.pairing(0, 0), 1);
     due("20 they cross", z.pairing(0, 1), 1);
+    load(z, "field e pair;outer e' e;");
+    due("20 an even bar ahead", z.pairing(0, 0), 1);
+    load(z, "field p real;field e pair odd;outer p e' p e;");
+    due("20 a bar ahead, that crosses an even one", z.pairing(0, 0), -1);
     ContractionCounter w = with("field a real odd;field b real odd;mix a b;outer b b a a;");
     due("20 mixed, no bars", w.pairing(2, 0), 1);
     due("20 mixed ones that cross", w.pairing(1, 0), -1);
@@ -1018,6 +1058,16 @@ public final class PromiseTest {
     ContractionCounter v = with("field p real;vertex p;vertex p;vertex p;vertex p;outer p p;");
     dueDiagram(v, 0, 3, 3, 16, 3, 0, 1, 2, 1, 0, 1, 8);
     dueDiagram(v, 1, 12, 12, 4, 2, 0, 0, 3, 0, 1, 1, 4);
+    load(v, "field p real;vertex p p;vertex p p;");
+    dueDiagram(v, 0, 1, 1, 8, 2, 0, 2, 0, 2, 0, 1, 2);
+    dueDiagram(v, 1, 2, 2, 4, 1, 0, 1, 0, 0, 1, 2, 2);
+    load(v, "field p real;outer p;outer p;");
+    dueDiagram(v, 0, 1, 1, 1, 1, 1, 0, 1, 0, 0, 1, 1);
+    load(v, "field p real;vertex p p p p;outer p p;");
+    due("28 one code, twice at first", v.diagram(lines(v, "0-0p;0-0p;1-1p;"), 9), 2);
+    due("28 one code, twice at last", v.diagram(lines(v, "0-0p;0-1p;0-1p;"), 9), 2);
+    load(v, "field p real;vertex p p p p p p;");
+    due("28 one code, thrice", v.diagram(0, 9), 3);
   }
 
   private static void name() {
@@ -1041,6 +1091,17 @@ public final class PromiseTest {
     due("29 a mix", y.name(0, 1), 121);
     due("29 a mix", y.name(1, 0), 106);
     due("29 a mix", y.name(2, 0), 116);
+    load(y, "field a real;field b real;mix a b;outer a b;outer a b;outer a b;outer a b;outer a b;outer a b;");
+    due("29 very many", y.many(6), 10395);
+    String before = "";
+    for (int d = 0; d < 10395; d++) {
+      StringBuilder row = new StringBuilder();
+      for (int k = 0; k < 6; k++) {
+        row.append(y.name(d, k) + 1000);
+      }
+      due("29 names rise", before.compareTo(row.toString()) < 0 ? 1 : 0, 1);
+      before = row.toString();
+    }
   }
 
   private static void part() {
@@ -1092,8 +1153,12 @@ public final class PromiseTest {
     ContractionCounter y = with(PHI);
     fine("32 with a ring", y, () -> y.holds(0), 2);
     fine("32 a ring alone", y, () -> y.holds(1), 0);
-    ContractionCounter z = with("field p real;vertex p p;vertex p p;vertex p p;");
-    due("32 a triangle", z.holds(0), 0);
+    ContractionCounter z = with("field p real;vertex p p p;outer p;outer p;outer p;");
+    due("32 the first", z.holds(lines(z, "0-1p;0-2p;0-3p;")), 1);
+    z.move(0, 3);
+    due("32 the last", z.holds(lines(z, "0-3p;1-3p;2-3p;")), 8);
+    load(z, "field p real;vertex p p;vertex p p;vertex p p;");
+    due("32 rings", z.holds(0), 0);
     due("32 a triangle", z.holds(lines(z, "0-1p;1-2p;2-0p;")), 0);
   }
 
