@@ -519,7 +519,12 @@ public final class PromiseTest {
     dueMany(THREE, 1, 0, 1, 0, 3, 0, 0, 0, 0, 0, 0, 0, 0);
     dueMany("field e pair odd;outer e' e;", 1, 0, 1, 0, 2, 1, 1, -1, 1, 1, 1, 1, 1);
     dueMany("field e pair odd;outer e e';", 1, 0, 1, 0, 2, 1, 1, 1, 1, 1, 1, 1, 1);
-    ContractionCounter x = with(PHI);
+    ContractionCounter x = with("field p real;outer p p;vertex p p;vertex p p p;vertex p p p;");
+    due("8 of many", counts(x) + x.many(8) + " " + x.many(9) + " " + x.many(11) + " " + x.many(12),
+        "945 17 945 3-3 720 720 7 7");
+    load(x, PHI);
+    due("8 nothing stays of them", counts(x) + x.many(8) + " " + x.many(9) + " " + x.many(11) + " " + x.many(12),
+        "15 2 15 1-2 12 12 1 1");
     refused("8 below", x, () -> x.many(-1), 1);
     refused("8 above", x, () -> x.many(13), 1);
     refused("8 far above", x, () -> x.many(MOST), 1);
@@ -1068,6 +1073,8 @@ public final class PromiseTest {
     due("28 one code, twice at last", v.diagram(lines(v, "0-0p;0-1p;0-1p;"), 9), 2);
     load(v, "field p real;vertex p p p p p p;");
     due("28 one code, thrice", v.diagram(0, 9), 3);
+    load(v, "field p real;vertex p p;vertex p p;vertex p p;");
+    dueDiagram(v, lines(v, "0-1p;1-2p;2-0p;"), 8, 8, 6, 1, 0, 1, 0, 0, 4, 1, 6);
   }
 
   private static void name() {

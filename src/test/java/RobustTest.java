@@ -1,9 +1,13 @@
 import java.lang.management.ManagementFactory;
 import java.lang.reflect.InvocationTargetException;
 import java.lang.reflect.Method;
+import java.lang.reflect.Modifier;
 import java.nio.ByteBuffer;
 import java.nio.charset.StandardCharsets;
+import java.util.ArrayList;
 import java.util.Arrays;
+import java.util.Comparator;
+import java.util.List;
 
 /** No call throws, whatever its arguments and the state; and calls make next to nothing anew. */
 public final class RobustTest {
@@ -92,13 +96,22 @@ public final class RobustTest {
     return "drop move swap normal copy load".contains(method.getName());
   }
 
-  /** Each number in each place, the others small. */
+  /** By name, for the machine tells them in no fixed order. */
+  private static List<Method> face() {
+    List<Method> open = new ArrayList<>();
+    for (Method method : ContractionCounter.class.getDeclaredMethods()) {
+      if (Modifier.isPublic(method.getModifiers())) {
+        open.add(method);
+      }
+    }
+    open.sort(Comparator.comparing(Method::getName));
+    return open;
+  }
+
+  /** Each number in each place, with each other. */
   private static void askAll(String theory) throws Exception {
     ContractionCounter x = with(theory);
-    for (Method method : ContractionCounter.class.getDeclaredMethods()) {
-      if (!java.lang.reflect.Modifier.isPublic(method.getModifiers())) {
-        continue;
-      }
+    for (Method method : face()) {
       Class<?>[] types = method.getParameterTypes();
       int most = types.length > 3 ? 1 : (int) Math.pow(NUMBERS.length, types.length);
       for (int choice = 0; choice < most; choice++) {
@@ -121,12 +134,9 @@ public final class RobustTest {
 
   private static void askAny(String theory) throws Exception {
     ContractionCounter x = with(theory);
-    Method[] methods = ContractionCounter.class.getDeclaredMethods();
+    List<Method> methods = face();
     for (int k = 0; k < 400; k++) {
-      Method method = methods[random(methods.length)];
-      if (!java.lang.reflect.Modifier.isPublic(method.getModifiers())) {
-        continue;
-      }
+      Method method = methods.get(random(methods.size()));
       if (random(4) == 0) {
         String text = random(3) == 0 ? THEORIES[random(THEORIES.length)] : TEXTS[random(TEXTS.length)];
         tell(x, text);
