@@ -1,29 +1,5 @@
-import java.nio.ByteBuffer;
-import java.nio.charset.StandardCharsets;
-import java.util.Arrays;
-import java.util.function.LongSupplier;
-
 /** For each promise of the document: ordinary inputs, the edges it names, and wrong inputs. */
-public final class PromiseTest {
-  private static final int LEAST = Integer.MIN_VALUE;
-  private static final int MOST = Integer.MAX_VALUE;
-
-  /** One real field; two diagrams, of 12 and 3 pairings. */
-  private static final String PHI = "field p real;outer p;vertex p p p p;outer p;";
-  /** An odd pair and an even real field; four diagrams, two vertices alike. */
-  private static final String QED =
-      "field e pair odd;field p real;outer e;vertex e' e p;vertex e' e p;outer e';";
-  /** Two real fields that are mixed, the second one told first. */
-  private static final String MIXED =
-      "field a real;field b real;mix b a;outer a;vertex a b;outer b;";
-  /** One odd real field: 01|23, 02|13 (which cross), 03|12. */
-  private static final String ODD = "field m real odd;outer m m m m;";
-  /** Three letters: no pairing at all. */
-  private static final String THREE = "field p real;outer p p p;";
-
-  private static int wrong = 0;
-  private static int asked = 0;
-
+public final class PromiseTest extends Checks {
   public static void main(String[] args) {
     newObject();
     status();
@@ -65,106 +41,7 @@ public final class PromiseTest {
     printPairs();
     out();
     core();
-    System.out.println(asked + " answers looked at, " + wrong + " are not as due");
-    if (wrong != 0) {
-      System.exit(1);
-    }
-  }
-
-  // ---- helpers
-
-  private static void due(String what, long got, long want) {
-    asked++;
-    if (got != want) {
-      wrong++;
-      System.out.println(what + ": answered " + got + ", due is " + want);
-    }
-  }
-
-  private static void due(String what, String got, String want) {
-    asked++;
-    if (!got.equals(want)) {
-      wrong++;
-      System.out.println(what + ": was\n  " + got + "\n due is\n  " + want);
-    }
-  }
-
-  /** An answer with STATUS 0. */
-  private static void fine(String what, ContractionCounter x, LongSupplier call, long want) {
-    due(what, call.getAsLong(), want);
-    due(what + " status", x.status(), 0);
-  }
-
-  /** NONE with a STATUS, and nothing else changed. */
-  private static void refused(String what, ContractionCounter x, LongSupplier call, int status) {
-    String before = snapshot(x);
-    due(what, call.getAsLong(), ContractionCounter.NONE);
-    due(what + " status", x.status(), status);
-    due(what + " changed something", snapshot(x), before);
-  }
-
-  private static String snapshot(ContractionCounter x) {
-    StringBuilder all = new StringBuilder();
-    all.append(x.fault(0)).append(' ').append(x.fault(1)).append(" many");
-    for (int what = 0; what < 13; what++) {
-      all.append(' ').append(x.many(what));
-    }
-    for (int i = 0; i < x.many(4); i++) {
-      all.append(" letter ").append(x.letter(i, 0)).append(x.letter(i, 1)).append(x.letter(i, 2));
-    }
-    for (int p = 0; p < x.many(2); p++) {
-      all.append(" point ").append(x.point(p, 0)).append(x.point(p, 1)).append(x.point(p, 2));
-    }
-    for (int k = 0; k < x.many(0); k++) {
-      all.append(" field ").append(x.field(k, 0)).append(x.field(k, 1)).append(x.field(k, 2));
-    }
-    all.append(" sum ").append(x.sum()).append(" out ").append(printed(x));
-    return all.toString();
-  }
-
-  private static String printed(ContractionCounter x) {
-    StringBuilder text = new StringBuilder();
-    for (int i = 0; x.out(i) >= 0; i++) {
-      text.append((char) x.out(i));
-    }
-    return text.toString();
-  }
-
-  private static int[] ints(String text) {
-    byte[] bytes = Arrays.copyOf(text.getBytes(StandardCharsets.ISO_8859_1), (text.length() + 19) / 20 * 20);
-    int[] ints = new int[bytes.length / 4];
-    ByteBuffer.wrap(bytes).asIntBuffer().get(ints);
-    return ints;
-  }
-
-  private static int tell(ContractionCounter x, String text) {
-    int[] v = ints(text);
-    int has = 0;
-    for (int at = 0; at < v.length; at += 5) {
-      has = x.feed(v[at], v[at + 1], v[at + 2], v[at + 3], v[at + 4]);
-    }
-    return has;
-  }
-
-  private static int load(ContractionCounter x, String text) {
-    tell(x, text);
-    return x.load(text.length());
-  }
-
-  private static int pairs(ContractionCounter x, String text) {
-    tell(x, text);
-    return x.pairs(text.length());
-  }
-
-  private static int lines(ContractionCounter x, String text) {
-    tell(x, text);
-    return x.lines(text.length());
-  }
-
-  private static ContractionCounter with(String text) {
-    ContractionCounter x = new ContractionCounter();
-    due("load of " + text, load(x, text) >= 0 ? 0 : x.status(), 0);
-    return x;
+    finish();
   }
 
   // ---- 1 to 7
@@ -282,16 +159,6 @@ public final class PromiseTest {
         + "vertex a;vertex a;vertex a;vertex a;"), 8);
   }
 
-  private static void badLoad(String text, int kind, int place) {
-    ContractionCounter x = with(PHI);
-    tell(x, text);
-    due("fault of " + text, x.load(text.length()), -1);
-    due("status of " + text, x.status(), 9);
-    due("kind of " + text, x.fault(0), kind);
-    due("place of " + text, x.fault(1), place);
-    due("nothing else changes by " + text, x.many(5), 15);
-  }
-
   private static void loadFaults() {
     badLoad("field p real#;", 1, 12);
     badLoad("\tfield p real;", 1, 0);
@@ -397,15 +264,6 @@ public final class PromiseTest {
     due("5 numbers above 9", pairs(y, "0-11;1-10;2-9;3-8;4-7;5-6;"), 10394);
   }
 
-  private static void badPairs(String theory, String text, int kind, int place) {
-    ContractionCounter x = with(theory);
-    due("pairs " + text, pairs(x, text), -1);
-    due("status of " + text, x.status(), 9);
-    due("kind of " + text, x.fault(0), kind);
-    due("place of " + text, x.fault(1), place);
-    due("the tape is empty behind " + text, x.feed(0, 0, 0, 0, 0), 20);
-  }
-
   private static void lines() {
     ContractionCounter x = with(QED);
     due("6 by its own labels", lines(x, "0>1e;1>2e;1-2p;2>3e;"), 0);
@@ -458,15 +316,6 @@ public final class PromiseTest {
     badLines(QED, "0>1e;0>1e;0>1e;0>1e;0>1e;", 6, 20);
     badLines(QED, "0>1e;0>1e;0>1e;0>1e;4>1e;", 3, 20);
     badLines(THREE, "0-0p;0-0p;", 6, 5);
-  }
-
-  private static void badLines(String theory, String text, int kind, int place) {
-    ContractionCounter x = with(theory);
-    due("lines " + text, lines(x, text), -1);
-    due("status of " + text, x.status(), 9);
-    due("kind of " + text, x.fault(0), kind);
-    due("place of " + text, x.fault(1), place);
-    due("the tape is empty behind " + text, x.feed(0, 0, 0, 0, 0), 20);
   }
 
   private static void fault() {
@@ -657,15 +506,6 @@ public final class PromiseTest {
     due("13 are others then", counts(y), "0 0 0 ");
     y.drop(1);
     due("13 are others then", counts(y), "1 1 1 0>1 ");
-  }
-
-  private static String rows(ContractionCounter x) {
-    StringBuilder rows = new StringBuilder();
-    for (int i = 0; i < x.many(4); i++) {
-      rows.append(x.letter(i, 2)).append((char) ('a' - 1 + x.field(x.letter(i, 0), 0)));
-      rows.append(x.letter(i, 1) == 1 ? "'" : "").append(' ');
-    }
-    return rows.toString();
   }
 
   /** Pairings, diagrams, signs together, and how the last line of the first diagram goes. */
