@@ -679,6 +679,9 @@ public final class BoundaryCallsTest extends Checks {
     fine("the most holes", x, () -> x.by(1, 3), 1485);
     noneBeyond(x, 16, number -> x.by(0, number));
     noneBeyond(x, 4, number -> x.by(1, number));
+    ContractionCounter odd = with(ODD);
+    fine("whose signs are turned", odd, () -> odd.by(0, 1), 1);
+    fine("whose signs are turned", odd, () -> odd.by(1, 1), 1);
     ContractionCounter three = with(THREE);
     fine("no pairings", three, () -> three.by(1, 0), 0);
     says(23, "(1: number below 0, too).");
@@ -911,6 +914,8 @@ public final class BoundaryCallsTest extends Checks {
     ContractionCounter x = with(TWELVE);
     fine("the most crossings", x, () -> x.ofDiagram(3, 0, 15), 1);
     fine("of the first, none crosses", x, () -> x.ofDiagram(0, 0, 0), 25);
+    ContractionCounter odd = with(ODD);
+    fine("whose sign is turned", odd, () -> odd.ofDiagram(0, 0, 1), 1);
     noneBeyond(x, 16, number -> x.ofDiagram(3, 0, number));
     noneBeyond(x, 4, number -> x.ofDiagram(3, 1, number));
     says(33, "(1: number below 0, too; 2).");
@@ -980,6 +985,9 @@ public final class BoundaryCallsTest extends Checks {
     ContractionCounter y = with("field z pair;" + "outer z;".repeat(4) + "outer z';".repeat(4));
     fine("the last", y, () -> y.print(23), 20);
     due("the last", printed(y), "0>7z;1>6z;2>5z;3>4z;");
+    ContractionCounter falling = with("field z pair;outer z';" + "vertex z' z;".repeat(5) + "outer z;");
+    falling.print(lines(falling, "1>0z;2>1z;3>2z;4>3z;5>4z;6>5z;"));
+    due("to the first point, and falling", printed(falling), "1>0z;2>1z;3>2z;4>3z;5>4z;6>5z;");
     load(y, PHI);
     fine("a shorter one in its place", y, () -> y.print(0), 15);
     due("a shorter one in its place", printed(y), "0-1p;1-1p;1-2p;");

@@ -4,6 +4,8 @@ import java.util.Arrays;
 public final class BoundaryTermsTest extends Checks {
   private static final Document DOCUMENT = Document.read();
   private static final String EIGHT_POINTS = "field a real;" + "outer a;".repeat(8);
+  /** Two diagrams: 10 120 200 of the second pairing, 20 100 210 of the first one. */
+  private static final String TURNED = "field e pair;" + "normal outer e' e;".repeat(3);
   private static final String FIVE_VERTICES = "field a real;" + "vertex a;".repeat(5);
 
   public static void main(String[] args) {
@@ -311,7 +313,14 @@ public final class BoundaryTermsTest extends Checks {
     refused("none is behind the last", y, () -> y.name(d, 4), 5);
     ContractionCounter e = with("field e pair;vertex e;vertex e;outer e';outer e';");
     due("a row that is the least already", e.name(0, 0) * 1000 + e.name(0, 1), 20130);
+    ContractionCounter ring = with("field e pair;" + "vertex e' e;".repeat(3));
+    int turned = lines(ring, "0>2e;2>1e;1>0e;");
+    due("the first pairing's row is not the least", ring.mate(ring.diagram(turned, 8), 0), 3);
+    due("the least row", ring.name(turned, 0) + " " + ring.name(turned, 1) + " " + ring.name(turned, 2), "10 120 200");
     says("DIAGRAMS are numbered from 0 on by NAMES, the least first.");
+    ContractionCounter second = with(TURNED);
+    due("the first pairing is of the second one", second.pairing(0, 3), 1);
+    due("the second pairing is of the first one", second.diagram(0, 8), 1);
     due("a second code decides", with(QED).name(0, 1), 120);
     due("a second code decides", with(QED).name(1, 1), 121);
     ContractionCounter last = with(QED);
@@ -545,6 +554,16 @@ public final class BoundaryTermsTest extends Checks {
     due("the end of n bytes, not of the tape", x.load(43), -1);
     due("its kind", x.fault(0), 2);
     due("its place", x.fault(1), 43);
+    tell(x, "field p real;outer p;");
+    due("a word that n cuts", x.load(10), -1);
+    due("its kind and place", x.fault(0) * 100 + x.fault(1), 208);
+    load(x, "field p real;outer p p;");
+    tell(x, "0-12;");
+    due("a number that n cuts", x.pairs(3), -1);
+    due("its kind and place", x.fault(0) * 100 + x.fault(1), 203);
+    tell(x, "0-0pq;");
+    due("a word that n cuts", x.lines(4), -1);
+    due("its kind and place", x.fault(0) * 100 + x.fault(1), 204);
     says("3 an L that is no FIELD as yet (at it).");
     badLoad("outer p;field p real;", 3, 6);
     badLoad("mix p q;field p real;field q real;", 3, 4);
@@ -608,6 +627,24 @@ public final class BoundaryTermsTest extends Checks {
     due("no fields", x.many(0), 0);
     due("no points", x.many(2), 0);
     due("one pairing", x.many(5), 1);
+    nothingStays();
+  }
+
+  /** Whatever was there, and was asked of it: what comes behind it is as in a new object. */
+  private static void nothingStays() {
+    String[] theories = {"", PHI, QED, MIXED, ODD, THREE, TURNED, TWELVE, SIX_FIELDS, EIGHT_POINTS, FIVE_VERTICES,
+        TWELVE.replace("vertex", "outer"), "field p real;outer p p;", "field p real;outer p p;outer p p;",
+        "field p real;outer p;outer p;", "field a pair odd;field p real;normal vertex a a' p;vertex p a' a;"};
+    for (String first : theories) {
+      ContractionCounter x = with(first);
+      snapshot(x);
+      for (String next : theories) {
+        load(x, next);
+        due(next + " behind others", snapshot(x), snapshot(with(next)));
+        load(x, first);
+        due(first + " behind " + next, snapshot(x), snapshot(with(first)));
+      }
+    }
   }
 
   private static void linkTexts() {
@@ -659,11 +696,21 @@ public final class BoundaryTermsTest extends Checks {
     says("FAULTS: 1, 2 likewise (a NUMBER of three digits and more: 1);");
     badPairs(PHI, "000-1;", 1, 0);
     badPairs(PHI, "0-001;", 1, 2);
-    badPairs(PHI, "0-1;" + "1".repeat(390), 1, 4);
+    badPairs(PHI, "0-1;" + "1".repeat(396), 1, 4);
+    badLoad("p".repeat(400), 2, 0);
     badPairs(PHI, "0 100", 1, 2);
     badLines(PHI, "0-100p;", 1, 2);
     badLines(PHI, "0-1 100;", 1, 4);
+    badPairs(PHI, "0", 2, 1);
+    badPairs(PHI, "0-", 2, 2);
+    badPairs(PHI, "0-1", 2, 3);
     badPairs(PHI, "0-1 \n", 2, 5);
+    badLines(PHI, "0", 2, 1);
+    badLines(PHI, "0-", 2, 2);
+    badLines(PHI, "0 > ", 2, 4);
+    badLines(PHI, "0-1", 2, 3);
+    badLines(PHI, "0-1p", 2, 4);
+    badLines(PHI, "0-1p;2", 2, 6);
     says("3 a NUMBER that is no LETTER, POINT, a WORD, of however many letters, that is no FIELD's, no MIX's (at it);");
     ContractionCounter x = with(PHI);
     due("the last letter", pairs(x, "5-0;4-1;3-2;"), 14);

@@ -95,13 +95,21 @@ abstract class Checks {
       all.append(" point ").append(x.point(p, 0)).append(x.point(p, 1)).append(x.point(p, 2));
     }
     for (int d = 0; d < Math.min(SHOWN, x.many(6)); d++) {
-      all.append(" diagram ").append(x.diagram(d, 0)).append(' ').append(x.sumOf(d));
+      all.append(" diagram ").append(x.sumOf(d));
+      for (int what = 0; what < 11; what++) {
+        all.append(' ').append(x.diagram(d, what));
+      }
+      all.append(" name");
       for (int k = 0; k < x.many(4) / 2; k++) {
         all.append(' ').append(x.name(d, k));
       }
     }
     for (int k = 0; k < Math.min(SHOWN, x.many(5)); k++) {
-      all.append(" pairing ").append(x.pairing(k, 0)).append(' ').append(x.pairing(k, 3));
+      all.append(" pairing");
+      for (int what = 0; what < 5; what++) {
+        all.append(' ').append(x.pairing(k, what));
+      }
+      all.append(" mates");
       for (int i = 0; i < x.many(4); i++) {
         all.append(' ').append(x.mate(k, i));
       }
