@@ -415,6 +415,11 @@ public final class BoundaryCallsTest extends Checks {
     worthsGo("normal", y -> y.normal(1, true));
     worthsGo("copy", y -> y.copy(1));
     worthsGo("drop", y -> y.drop(1));
+    String qed = "field e pair odd;field p real;";
+    asNew(QED, y -> y.drop(0), qed + "vertex e' e p;vertex e' e p;outer e';");
+    asNew(QED, y -> y.drop(1), qed + "outer e;vertex e' e p;outer e';");
+    asNew(QED, y -> y.drop(3), qed + "outer e;vertex e' e p;vertex e' e p;");
+    asNew(PHI, y -> y.drop(1), "field p real;outer p;outer p;");
     says(13, "(2).");
     outside(x, 0, 2, x::drop);
     ContractionCounter eight = with("field a real;" + "outer a;".repeat(8));
@@ -435,6 +440,14 @@ public final class BoundaryCallsTest extends Checks {
     refused("worths behind " + what, x, () -> x.worth(1, 1), 4);
   }
 
+  /** All that was known of the points as they were is forgotten. */
+  private static void asNew(String theory, Change change, String then) {
+    ContractionCounter x = with(theory);
+    snapshot(x);
+    due("a change of " + theory, change.of(x) >= 0 ? 0 : x.status(), 0);
+    due(theory + " is as " + then, snapshot(x), snapshot(with(then)));
+  }
+
   private static void move() {
     says(14, "A POINT comes to another place among the POINTS (as they are without it): how many LETTERS lie ahead of it "
         + "then");
@@ -447,6 +460,11 @@ public final class BoundaryCallsTest extends Checks {
     due("rows", rows(x), "0a 1c 1c 1c 2b 2b 3d ");
     fine("back by one", x, () -> x.move(2, 1), 1);
     due("rows", rows(x), "0a 1b 1b 2c 2c 2c 3d ");
+    String qed = "field e pair odd;field p real;";
+    asNew(QED, y -> y.move(0, 3), qed + "vertex e' e p;vertex e' e p;outer e';outer e;");
+    asNew(QED, y -> y.move(3, 0), qed + "outer e';outer e;vertex e' e p;vertex e' e p;");
+    asNew(QED, y -> y.move(2, 3), qed + "outer e;vertex e' e p;outer e';vertex e' e p;");
+    asNew(PHI, y -> y.move(1, 0), "field p real;vertex p p p p;outer p;outer p;");
     says(14, "(1: place below 0, or not below how many POINTS there are; 2; 4).");
     outside(x, 4, 1, number -> x.move(0, number));
     outside(x, 4, 1, number -> x.move(4, number));
@@ -479,6 +497,10 @@ public final class BoundaryCallsTest extends Checks {
     due("rows", rows(last), "0p 0p 0p 0p 0p 0p 1p 1p 1p 1q 1q 1p ");
     ContractionCounter three = with("field p real;field q real;outer p q p;");
     fine("no pairings", three, () -> three.swap(0), 0);
+    String qed = "field e pair odd;field p real;";
+    asNew(QED, z -> z.swap(1), qed + "outer e;vertex e e' p;vertex e' e p;outer e';");
+    asNew(QED, z -> z.swap(5), qed + "outer e;vertex e' e p;vertex e' p e;outer e';");
+    asNew(MIXED, z -> z.swap(1), "field a real;field b real;mix b a;outer a;vertex b a;outer b;");
     says(15, "(2: no such ones; 4: they are like ones of one POINT; 5: they are of two POINTS); STATUS tells NONE from -1.");
     outside(x, 8, 2, x::swap);
     refused("the last has no next one", x, () -> x.swap(7), 2);
@@ -502,6 +524,10 @@ public final class BoundaryCallsTest extends Checks {
     fine("the last", x, () -> x.normal(1, true), 720);
     ContractionCounter y = with("field p real;outer p p;");
     fine("none is left", y, () -> y.normal(0, true), 0);
+    asNew(PHI, z -> z.normal(1, true), "field p real;outer p;normal vertex p p p p;outer p;");
+    asNew(QED, z -> z.normal(2, true),
+        "field e pair odd;field p real;outer e;vertex e' e p;normal vertex e' e p;outer e';");
+    asNew("field p real;normal outer p p;outer p p;", z -> z.normal(0, false), "field p real;outer p p;outer p p;");
     says(16, "(2; 4).");
     outside(x, 2, 2, number -> x.normal(number, true));
     outside(x, 2, 2, number -> x.normal(number, false));
@@ -517,6 +543,9 @@ public final class BoundaryCallsTest extends Checks {
     due("like it", facts(x, 2), "3 1 1 4 2 ");
     fine("an outer one", x, () -> x.copy(0), 3);
     due("like it", facts(x, 3), "1 0 0 7 0 ");
+    asNew(PHI, y -> y.copy(1), "field p real;outer p;vertex p p p p;outer p;vertex p p p p;");
+    asNew(QED, y -> y.copy(0), "field e pair odd;field p real;outer e;vertex e' e p;vertex e' e p;outer e';outer e;");
+    asNew(MIXED, y -> y.copy(1), "field a real;field b real;mix b a;outer a;vertex a b;outer b;vertex a b;");
     says(17, "(2; 3).");
     outside(x, 4, 2, x::copy);
     x.copy(0);

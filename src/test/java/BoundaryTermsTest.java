@@ -327,6 +327,9 @@ public final class BoundaryTermsTest extends Checks {
     fine("the last", last, () -> last.name(3, 0), 30);
     refused("none is behind the last", last, () -> last.name(4, 0), 2);
     refused("none is ahead of the first", last, () -> last.name(-1, 0), 2);
+    namesRise("field p real;" + "outer p p;".repeat(6));
+    namesRise("field e pair;" + "outer e e';".repeat(6));
+    namesRise("field a real;field b real;mix b a;" + "vertex a b;".repeat(4) + "outer a b;");
     says("COUNT: its PAIRINGS; SIGNED: their SIGNS together.");
     ContractionCounter odd = with("field m real odd;vertex m m m m;outer m m;");
     int both = lines(odd, "0-0m;0-1m;0-1m;");
@@ -334,6 +337,25 @@ public final class BoundaryTermsTest extends Checks {
     due("their signs", odd.diagram(both, 1), 0);
     due("of no lines", new ContractionCounter().diagram(0, 0), 1);
     due("of no lines, the sign", new ContractionCounter().diagram(0, 1), 1);
+  }
+
+  /** Of very many diagrams, each one's name is less than the next one's, and its count is that of its pairings. */
+  private static void namesRise(String theory) {
+    ContractionCounter x = with(theory);
+    int size = x.many(6);
+    long[] names = new long[size];
+    int[] counts = new int[size];
+    for (int k = 0; k < x.many(5); k++) {
+      counts[x.pairing(k, 3)]++;
+    }
+    for (int d = 0; d < size; d++) {
+      for (int k = 0; k < x.many(4) / 2; k++) {
+        names[d] = 1000 * names[d] + x.name(d, k);
+      }
+      due("name " + d + " is greater than the one ahead of it", d == 0 || names[d - 1] < names[d] ? 1 : 0, 1);
+      due("count " + d, x.diagram(d, 0), counts[d]);
+      due("first of " + d + " is one of its own", x.pairing(x.diagram(d, 8), 3), d);
+    }
   }
 
   private static void symmetry() {
@@ -384,6 +406,7 @@ public final class BoundaryTermsTest extends Checks {
     due("two lines of two points are none", two.diagram(1, 6), 0);
     ContractionCounter arrows = with("field e pair;outer e e';outer e e';");
     due("nor if they lead both ways", arrows.diagram(lines(arrows, "0>1e;1>0e;"), 6), 0);
+    bridgesOfRows();
     ContractionCounter star = with("field p real;outer p p p p p p;" + "outer p;".repeat(6));
     due("six, all lines", star.diagram(lines(star, "0-1p;0-2p;0-3p;0-4p;0-5p;0-6p;"), 6), 6);
     says("RINGS: LINES from a POINT to itself.");
@@ -392,6 +415,19 @@ public final class BoundaryTermsTest extends Checks {
     due("none", two.diagram(1, 7), 0);
     ContractionCounter mixed = with("field a real;field b real;mix a b;field e pair;outer a b e e';");
     due("of a mix and of a pair", mixed.diagram(0, 7), 2);
+  }
+
+  private static void bridgesOfRows() {
+    ContractionCounter three = with("field p real;" + "outer p p;".repeat(3));
+    due("a ring of three points has none", three.diagram(lines(three, "0-1p;1-2p;2-0p;"), 6), 0);
+    ContractionCounter five = with("field p real;" + "vertex p p;".repeat(5));
+    due("nor a ring of five", five.diagram(lines(five, "0-3p;3-1p;1-4p;4-2p;2-0p;"), 6), 0);
+    ContractionCounter tail = with("field p real;outer p p p;outer p p;outer p p;outer p;");
+    due("one, at a ring of three", tail.diagram(lines(tail, "0-1p;1-2p;2-0p;0-3p;"), 6), 1);
+    ContractionCounter between = with("field p real;" + "vertex p p p;".repeat(4));
+    due("two, with two lines of two points between", between.diagram(lines(between, "0-0p;0-1p;1-2p;1-2p;2-3p;3-3p;"), 6), 2);
+    ContractionCounter kinds = with("field a real;field b real;outer a b;outer a b;");
+    due("nor two lines of two fields", kinds.diagram(lines(kinds, "0-1a;0-1b;"), 6), 0);
   }
 
   private static void worths() {
@@ -681,6 +717,13 @@ public final class BoundaryTermsTest extends Checks {
     badLines(PHI, "0-1p", 2, 4);
     badLines(PHI, "0-1p p;", 2, 5);
     says("Both may tell them in any order, PAIRS and REAL LINES either way round.");
+    ContractionCounter four = with("field a real;field b real;field c real;field d real;mix a b;mix a c;mix a d;mix d c;"
+        + "outer a d;outer c a;");
+    due("8 117, of one point each", lines(four, "0-0ad;1-1ac;"), 0);
+    due("10 19, the last mix", lines(four, "0-1dc;0-1a;"), 1);
+    due("17 108, one falling", lines(four, "0-1ac;1-0ad;"), 2);
+    due("17 108, the other one falling", lines(four, "1-0ac;0-1ad;"), -1);
+    due("so that none has it", four.status(), 5);
     ContractionCounter z = with(QED);
     due("pairs", pairs(z, "7-5;6-3;4-2;1-0;"), 0);
     due("lines", lines(z, "2>3e;2-1p;1>2e;0>1e;"), 0);

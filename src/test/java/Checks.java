@@ -61,8 +61,9 @@ abstract class Checks {
     }
   }
 
-  /** An answer with STATUS 0. */
+  /** An answer with STATUS 0, which the call itself must leave: the one ahead of it leaves another. */
   static void fine(String what, ContractionCounter x, LongSupplier call, long want) {
+    x.many(-1);
     due(what, call.getAsLong(), want);
     due(what + " status", x.status(), 0);
   }
