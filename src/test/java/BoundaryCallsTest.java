@@ -6,6 +6,8 @@ public final class BoundaryCallsTest extends Checks {
   private static final int[] BELOW = {-1, -2, LEAST, LEAST + 1};
   private static final int[] BEYOND = {1000000, 1 << 30, MOST - 1, MOST};
 
+  private static final String EIGHT_ROWS = "field a real;field b real;" + "outer a;outer b;".repeat(4);
+
   private static int promise;
 
   /** A call with a number in one of its places. */
@@ -305,6 +307,8 @@ public final class BoundaryCallsTest extends Checks {
     dueMany("field p real;vertex p p;", 1, 0, 1, 1, 2, 1, 1, 1, 0, 1, 1, 0, 1);
     dueMany("field p real;outer p p;outer p p;", 1, 0, 2, 0, 4, 3, 2, 3, 3, 2, 2, 2, 1);
     dueMany(TWELVE, 1, 0, 2, 2, 12, 10395, 4, 10395, 0, 10170, 132, 0, 3);
+    dueMany("field e pair odd;outer e' e;", 1, 0, 1, 0, 2, 1, 1, -1, 1, 1, 1, 1, 1);
+    dueMany(TWELVE.replace("real", "real odd"), 1, 0, 2, 2, 12, 10395, 4, 1, 0, 10170, 132, 0, 3);
     dueMany(SIX_FIELDS + "mix a b;mix a c;mix a d;mix a e;" + "vertex a;vertex b;vertex c;outer d;",
         6, 4, 4, 3, 4, 0, 0, 0, 0, 0, 0, 0, 0);
     says(8, "(1); STATUS tells NONE from -1.");
@@ -424,6 +428,10 @@ public final class BoundaryCallsTest extends Checks {
     outside(x, 0, 2, x::drop);
     ContractionCounter eight = with("field a real;" + "outer a;".repeat(8));
     outside(eight, 8, 2, eight::drop);
+    fine("the first of eight", eight, () -> eight.drop(0), 7);
+    ContractionCounter again = with(EIGHT_ROWS);
+    fine("the last of eight", again, () -> again.drop(7), 7);
+    due("rows", rows(again), "0a 1b 2a 3b 4a 5b 6a ");
   }
 
   private interface Change {
@@ -474,6 +482,12 @@ public final class BoundaryCallsTest extends Checks {
       int at = p;
       refused("there already", x, () -> x.move(at, at), 4);
     }
+    ContractionCounter eight = with(EIGHT_ROWS);
+    fine("the first of eight behind all", eight, () -> eight.move(0, 7), 7);
+    due("rows", rows(eight), "0b 1a 2b 3a 4b 5a 6b 7a ");
+    fine("the last of eight ahead of all", eight, () -> eight.move(7, 0), 0);
+    due("rows", rows(eight), "0a 1b 2a 3b 4a 5b 6a 7b ");
+    outside(eight, 8, 1, number -> eight.move(0, number));
     ContractionCounter one = with("field a real;outer a a;");
     refused("one alone is there already", one, () -> one.move(0, 0), 4);
     refused("one alone has no other place", one, () -> one.move(0, 1), 1);
